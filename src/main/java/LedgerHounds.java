@@ -75,10 +75,10 @@ public final class LedgerHounds {
     private final Deeds deeds = new Deeds();
     private final Deeds spareDeeds = new Deeds();
     private final int[] tape = new int[MOST_BYTES];
-    private final Reader reader = new Reader(tape);
+    private final Reader reader = new Reader();
     private final Machine machine = new Machine();
-    private final Rules rules = new Rules(machine);
-    private final Kennel kennel = new Kennel(rules);
+    private final Rules rules = new Rules();
+    private final Kennel kennel = new Kennel();
     private final Heaps heaps = new Heaps();
     private final int[] worths = new int[ORDER_WORTHS];
     private final long[] chances = new long[MOST_FEW];
@@ -605,7 +605,7 @@ public final class LedgerHounds {
     }
 
     private Text readTape(boolean asLaw) {
-        Text text = reader.readText(tapeLength, asLaw);
+        Text text = reader.readText(tape, tapeLength, asLaw);
         faultAt = reader.fault;
         tapeLength = 0;
         return text;
@@ -950,7 +950,7 @@ public final class LedgerHounds {
         /** Each TOKEN makes one step at most, and each SUM and TEST one more at its end. */
         private static final int MOST_CODE = MOST_BYTES + 4 * MOST_CLAUSES;
 
-        private final int[] bytes;
+        private final int[] bytes = new int[MOST_BYTES];
         private final int[] code = new int[MOST_CODE];
         private final int[] clauses = new int[Text.WIDTH * MOST_CLAUSES];
         private boolean asLaw;
@@ -963,12 +963,9 @@ public final class LedgerHounds {
         private int size;
         private int count;
 
-        Reader(int[] bytes) {
-            this.bytes = bytes;
-        }
-
         /** The TEXT, or null with `fault` set. */
-        Text readText(int tapeLength, boolean law) {
+        Text readText(int[] tape, int tapeLength, boolean law) {
+            System.arraycopy(tape, 0, bytes, 0, tapeLength);
             asLaw = law;
             length = tapeLength;
             stop = 0;
@@ -977,7 +974,10 @@ public final class LedgerHounds {
             size = 0;
             count = 0;
             move();
-            return readClauses() ? new Text(Arrays.copyOf(code, size), Arrays.copyOf(clauses, Text.WIDTH * count), count) : null;
+            if (!readClauses()) {
+                return null;
+            }
+            return new Text(Arrays.copyOf(code, size), Arrays.copyOf(clauses, Text.WIDTH * count), count);
         }
 
         private boolean readClauses() {
@@ -1027,7 +1027,9 @@ public final class LedgerHounds {
 
         private void openClause(int kind) {
             int first = Text.WIDTH * count;
-            Arrays.fill(clauses, first, first + Text.WIDTH, NONE);
+            for (int i = 0; i < Text.WIDTH; i++) {
+                clauses[first + i] = NONE;
+            }
             clauses[first] = kind;
             clauses[first + 1] = 1;
             count++;
@@ -1163,7 +1165,7 @@ public final class LedgerHounds {
             }
             int number = numberTo(MOST_NUMBER);
             int word = wordIn(asLaw ? LAW_WORDS : ORDER_WORDS);
-            if (number == NONE && word == NONE || parts >= MOST_PARTS) {
+            if ((number == NONE && word == NONE) || parts >= MOST_PARTS) {
                 return fails();
             }
             parts++;
@@ -1303,7 +1305,8 @@ public final class LedgerHounds {
         private static final int NOT = 11;
         private static final int AND = 12;
         private static final int OR = 13;
-        private static final int MOST_WORTH = 1000000000;
+        private static final long MOST_WORTH = 1000000000L;
+        private static final long BEYOND = MOST_WORTH + 1;
         /** Each bracket, and each of a comparison, a SUM, a TERM in it, leaves one number waiting. */
         private static final int MOST_WAITING = 4 * (MOST_BRACKETS + 2);
 
@@ -1337,24 +1340,22 @@ public final class LedgerHounds {
                     push(with);
                 } else if (step == WORD) {
                     push(with < worths.length ? worths[with] : 0);
+                } else if (top == 0) {
+                    return BROKEN;
+                } else if (step == NOT) {
+                    waiting[top - 1] = 1 - waiting[top - 1];
                 } else if (step == AND || step == OR) {
-                    if (isDecided(step)) {
+                    // What stands behind can't matter any more: it is gone over.
+                    if (waiting[top - 1] == (step == OR ? 1 : 0)) {
                         goOnAt = with;
                     } else {
                         top--;
                     }
-                } else if (step == NOT) {
-                    waiting[top - 1] = 1 - waiting[top - 1];
                 } else if (!combine(step)) {
                     return BROKEN;
                 }
             }
             return BROKEN;
-        }
-
-        /** Whether what stands behind "and", "or" can't matter any more. */
-        private boolean isDecided(int step) {
-            return waiting[top - 1] == (step == OR ? 1 : 0);
         }
 
         private void push(int number) {
@@ -1364,17 +1365,12 @@ public final class LedgerHounds {
             }
         }
 
-        /** Puts one number for the two that wait longest behind; false, if that is BROKEN. */
+        /** Puts one number for the latest two that wait; false, if that is BROKEN. */
         private boolean combine(int step) {
             if (top < 2) {
                 return false;
             }
-            long a = waiting[top - 2];
-            long b = waiting[top - 1];
-            if ((step == OVER || step == REST) && b == 0) {
-                return false;
-            }
-            long worth = joined(step, a, b);
+            long worth = joined(step, waiting[top - 2], waiting[top - 1]);
             if (worth > MOST_WORTH || worth < -MOST_WORTH) {
                 return false;
             }
@@ -1392,9 +1388,9 @@ public final class LedgerHounds {
                 case TIMES:
                     return a * b;
                 case OVER:
-                    return b == 0 ? 0 : a / b;
+                    return b == 0 ? BEYOND : a / b;
                 case REST:
-                    return b == 0 ? 0 : a % b;
+                    return b == 0 ? BEYOND : a % b;
                 case LESS:
                     return a < b ? 1 : 0;
                 case MORE:
@@ -1407,13 +1403,9 @@ public final class LedgerHounds {
 
     /** What a LAW tells of a CELL, or of a CLERK and a CELL. */
     private static final class Rules {
-        private final Machine machine;
+        private final Machine machine = new Machine();
         /** The worths of the words, in the order of Reader.LAW_WORDS. */
         private final int[] worths = new int[10];
-
-        Rules(Machine machine) {
-            this.machine = machine;
-        }
 
         /** What the last CLAUSE of the kind that HOLDS tells (0, if it has no SUM); BROKEN, if none HOLDS. */
         int lastTold(Book book, Text law, int kind, int cell, int clerk) {
@@ -1449,7 +1441,7 @@ public final class LedgerHounds {
     /** Where hounds go by a LAW. */
     private static final class Kennel {
         private static final int PLACES = CELLS + 1;
-        private final Rules rules;
+        private final Rules rules = new Rules();
         /** Where a STEP leads from each CELL, and from OUT. */
         private final int[] steps = new int[PLACES];
         /** The CELLS that a hound comes to from each CELL, itself too, as bits. */
@@ -1457,10 +1449,6 @@ public final class LedgerHounds {
         private final int[] firstMet = new int[PLACES];
         /** By LAW and CELL: where the hound is behind the asked STEPS. */
         private final int[] places = new int[MOST_LAWS * CELLS];
-
-        Kennel(Rules rules) {
-            this.rules = rules;
-        }
 
         void learn(Book book, Text law) {
             for (int cell = 0; cell < CELLS; cell++) {
@@ -1627,16 +1615,17 @@ public final class LedgerHounds {
         private int mostIn(int set, int first, int second) {
             int low = set & -set;
             int others = set ^ low;
-            int best = 0;
-            for (int rest = others; rest >= 0; rest--) {
-                rest &= others;
+            int best = hasBoth(set, first, second);
+            for (int rest = others; rest > 0; rest = rest - 1 & others) {
                 if (sums[rest] == 0) {
-                    int heap = set ^ rest;
-                    int counts = (heap & first) != 0 && (heap & second) != 0 ? 1 : 0;
-                    best = Math.max(best, most[rest] + counts);
+                    best = Math.max(best, most[rest] + hasBoth(set ^ rest, first, second));
                 }
             }
             return best;
+        }
+
+        private static int hasBoth(int heap, int first, int second) {
+            return (heap & first) != 0 && (heap & second) != 0 ? 1 : 0;
         }
     }
 }
