@@ -85,7 +85,6 @@ public final class LedgerHounds {
     private final int[] refusals = new int[5];
     private int tapeLength;
     private int smudged;
-    private int faultAt = NONE;
     private int stoppedAt = NONE;
     private int latest;
 
@@ -236,7 +235,8 @@ public final class LedgerHounds {
             tapeLength = 0;
             return refused(NO_ROOM);
         }
-        Text text = readTape(true);
+        Text text = reader.readText(tape, tapeLength, true);
+        tapeLength = 0;
         if (text == null) {
             return refused(UNREADABLE);
         }
@@ -248,7 +248,8 @@ public final class LedgerHounds {
 
     public int orders() {
         stoppedAt = NONE;
-        Text text = readTape(false);
+        Text text = reader.readText(tape, tapeLength, false);
+        tapeLength = 0;
         if (text == null) {
             return refused(UNREADABLE);
         }
@@ -264,7 +265,7 @@ public final class LedgerHounds {
     }
 
     public int fault() {
-        return faultAt;
+        return reader.fault;
     }
 
     public int stopped() {
@@ -602,13 +603,6 @@ public final class LedgerHounds {
             tape[tapeLength] = number >> places & 255;
             tapeLength++;
         }
-    }
-
-    private Text readTape(boolean asLaw) {
-        Text text = reader.readText(tape, tapeLength, asLaw);
-        faultAt = reader.fault;
-        tapeLength = 0;
-        return text;
     }
 
     /** A deed on the ledger, kept for undo(): its answer, or what it is REFUSED by. */
@@ -958,6 +952,7 @@ public final class LedgerHounds {
         /** The TOKEN in hand: its first byte, and the byte behind it; both are the length at the end. */
         private int start;
         private int stop;
+        /** FAULT of the latest TEXT that was read. */
         private int fault = NONE;
         private int parts;
         private int size;
@@ -974,25 +969,19 @@ public final class LedgerHounds {
             size = 0;
             count = 0;
             move();
-            if (!readClauses()) {
-                return null;
-            }
-            return new Text(Arrays.copyOf(code, size), Arrays.copyOf(clauses, Text.WIDTH * count), count);
-        }
-
-        private boolean readClauses() {
             for (int i = 0; i < MOST_CLAUSES; i++) {
                 if (!(asLaw ? readLawClause() : readOrderClause())) {
-                    return false;
+                    return null;
                 }
                 if (start == length) {
-                    return true;
+                    return new Text(Arrays.copyOf(code, size), Arrays.copyOf(clauses, Text.WIDTH * count), count);
                 }
                 if (!readSign(";")) {
-                    return false;
+                    return null;
                 }
             }
-            return fails();
+            fails();
+            return null;
         }
 
         private boolean readLawClause() {

@@ -6,6 +6,7 @@ public final class ImagesTest {
     public static void main(String[] args) {
         wrong();
         keeps();
+        keepsAllRows();
         keepsNot();
         laws();
         count();
@@ -91,6 +92,38 @@ public final class ImagesTest {
         x.enter(4, 1);
         x.back(0);
         Due.is("an image is not the ledger", print(x), second);
+    }
+
+    /** The last of each row that is kept counts as much as the first. */
+    private static void keepsAllRows() {
+        LedgerHounds x = Due.under("leads 1");
+        for (int i = 0; i < 10; i++) {
+            x.booked(i % 4, i % 4 + 1, 100 + i);
+        }
+        for (int i = 0; i < 8; i++) {
+            x.seen(i, 1, i + 5);
+        }
+        for (int i = 0; i < 5; i++) {
+            x.clerk(i);
+        }
+        long kept = print(x);
+        int fits = x.fits();
+        int flow = x.through(1, 2, 0);
+        x.image(0);
+        x.forget();
+        for (int i = 0; i < 10; i++) {
+            x.booked(4, 0, 999);
+        }
+        for (int i = 0; i < 8; i++) {
+            x.seen(24, 99, 3);
+        }
+        Due.is("nothing fits", x.fits(), 0);
+        x.back(0);
+        Due.is("as it was", print(x), kept);
+        Due.is("fits", x.fits(), fits);
+        Due.is("flow", x.through(1, 2, 0), flow);
+        Due.is("flow", x.through(1, 2, 0), 101 + 105 + 109);
+        Due.is("fits", x.fits(), 1);
     }
 
     private static void keepsNot() {
