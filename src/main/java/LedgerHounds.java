@@ -86,7 +86,7 @@ public final class LedgerHounds {
     private int tapeLength;
     private int smudged;
     private int stoppedAt = NONE;
-    private int latest;
+    private int latestRefusal;
 
     public LedgerHounds() {
         // An empty ledger is what the fields' own first values are.
@@ -551,7 +551,7 @@ public final class LedgerHounds {
     }
 
     public int status() {
-        return latest;
+        return latestRefusal;
     }
 
     private static boolean isWithin(int number, int least, int most) {
@@ -584,12 +584,12 @@ public final class LedgerHounds {
     private int refused(int why) {
         // There is no -4, so the two below it stand one nearer in the row.
         refusals[why > -4 ? -why - 1 : -why - 2]++;
-        latest = why;
+        latestRefusal = why;
         return why;
     }
 
     private int granted(int answer) {
-        latest = 0;
+        latestRefusal = 0;
         return answer;
     }
 
@@ -658,13 +658,13 @@ public final class LedgerHounds {
             int times = text.timesOf(clause);
             for (int time = 0; time < times; time++) {
                 fillOrderWorths(done, latestTake);
-                if (!machine.isAllowed(text, clause, worths)) {
+                if (machine.worthAt(text.code, text.testPlace(clause), worths, 1) != 1) {
                     continue;
                 }
                 // A BROKEN SUM is no CELL, no CLERK and no amount, so it is refused below.
-                int a = machine.sumOf(text, clause, 0, worths);
-                int b = machine.sumOf(text, clause, 1, worths);
-                int n = machine.sumOf(text, clause, 2, worths);
+                int a = machine.worthAt(text.code, text.sumPlace(clause, 0), worths, 0);
+                int b = machine.worthAt(text.code, text.sumPlace(clause, 1), worths, 0);
+                int n = machine.worthAt(text.code, text.sumPlace(clause, 2), worths, 0);
                 int answer = carryOut(kind, a, b, n);
                 if (answer < 0) {
                     stoppedAt = clause;
@@ -944,7 +944,14 @@ public final class LedgerHounds {
         /** Each TOKEN makes one step at most, and each SUM and TEST one more at its end. */
         private static final int MOST_CODE = MOST_BYTES + 4 * MOST_CLAUSES;
 
+        private static final int BLANK = 0;
+        private static final int LETTER = 1;
+        private static final int DIGIT = 2;
+        private static final int OTHER = 3;
+
         private final int[] bytes = new int[MOST_BYTES];
+        /** Of each byte whether it is a blank, a letter, a digit or another one. */
+        private final int[] kinds = new int[MOST_BYTES];
         private final int[] code = new int[MOST_CODE];
         private final int[] clauses = new int[Text.WIDTH * MOST_CLAUSES];
         private boolean asLaw;
@@ -960,7 +967,10 @@ public final class LedgerHounds {
 
         /** The TEXT, or null with `fault` set. */
         Text readText(int[] tape, int tapeLength, boolean law) {
-            System.arraycopy(tape, 0, bytes, 0, tapeLength);
+            for (int i = 0; i < tapeLength; i++) {
+                bytes[i] = tape[i];
+                kinds[i] = kindOfByte(tape[i]);
+            }
             asLaw = law;
             length = tapeLength;
             stop = 0;
@@ -1087,33 +1097,32 @@ public final class LedgerHounds {
                 move();
                 nots++;
             }
-            boolean read = wordIn("(") != NONE ? readGroup(depth) : readComparison(depth);
+            if (wordIn("(") != NONE) {
+                if (depth >= MOST_BRACKETS) {
+                    return fails();
+                }
+                move();
+                if (!readTest(depth + 1) || !readSign(")")) {
+                    return false;
+                }
+            } else {
+                if (!readSum(depth)) {
+                    return false;
+                }
+                int which = wordIn("< > =");
+                if (which == NONE) {
+                    return fails();
+                }
+                move();
+                if (!readSum(depth)) {
+                    return false;
+                }
+                put(Machine.LESS + which, 0);
+            }
             if (nots % 2 == 1) {
                 put(Machine.NOT, 0);
             }
-            return read;
-        }
-
-        private boolean readGroup(int depth) {
-            if (depth >= MOST_BRACKETS) {
-                return fails();
-            }
-            move();
-            return readTest(depth + 1) && readSign(")");
-        }
-
-        private boolean readComparison(int depth) {
-            if (!readSum(depth)) {
-                return false;
-            }
-            int which = wordIn("< > =");
-            if (which == NONE) {
-                return fails();
-            }
-            move();
-            boolean read = readSum(depth);
-            put(Machine.LESS + which, 0);
-            return read;
+            return true;
         }
 
         private boolean readSum(int depth) {
@@ -1212,62 +1221,55 @@ public final class LedgerHounds {
             }
         }
 
+        private static int kindOfByte(int sign) {
+            if (sign == ' ') {
+                return BLANK;
+            }
+            if (sign >= 'a' && sign <= 'z') {
+                return LETTER;
+            }
+            return sign >= '0' && sign <= '9' ? DIGIT : OTHER;
+        }
+
         private void move() {
             int i = stop;
-            while (i < length && bytes[i] == ' ') {
+            while (i < length && kinds[i] == BLANK) {
                 i++;
             }
             start = i;
             if (i < length) {
                 i++;
             }
-            while (i < length && isLetter(bytes[start]) && isLetter(bytes[i])) {
-                i++;
-            }
-            while (i < length && isDigit(bytes[start]) && isDigit(bytes[i])) {
+            while (i < length && kinds[i] == kinds[start] && kinds[i] != OTHER) {
                 i++;
             }
             stop = i;
         }
 
-        private static boolean isLetter(int sign) {
-            return sign >= 'a' && sign <= 'z';
-        }
-
-        private static boolean isDigit(int sign) {
-            return sign >= '0' && sign <= '9';
-        }
-
         /** Which word of the list, in which single blanks part them, the TOKEN in hand is; NONE. */
         private int wordIn(String list) {
+            int signs = stop - start;
             int which = 0;
-            for (int i = 0; i < list.length(); i++) {
-                if (i == 0 || list.charAt(i - 1) == ' ') {
-                    if (isWordAt(list, i)) {
+            int alike = 0;
+            for (int i = 0; i <= list.length(); i++) {
+                if (i == list.length() || list.charAt(i) == ' ') {
+                    if (alike == signs && signs > 0) {
                         return which;
                     }
                     which++;
+                    alike = 0;
+                } else if (alike != NONE && alike < signs && list.charAt(i) == bytes[start + alike]) {
+                    alike++;
+                } else {
+                    alike = NONE;
                 }
             }
             return NONE;
         }
 
-        private boolean isWordAt(String list, int first) {
-            int signs = stop - start;
-            if (signs == 0 || first + signs > list.length()) {
-                return false;
-            }
-            for (int i = 0; i < signs; i++) {
-                if (list.charAt(first + i) != bytes[start + i]) {
-                    return false;
-                }
-            }
-            return first + signs == list.length() || list.charAt(first + signs) == ' ';
-        }
-
         /** The NUMBER in hand; NONE, if it is none or greater than `most`. */
         private int numberTo(int most) {
-            if (start >= length || !isDigit(bytes[start])) {
+            if (start >= length || kinds[start] != DIGIT) {
                 return NONE;
             }
             int number = 0;
@@ -1302,19 +1304,11 @@ public final class LedgerHounds {
         private final int[] waiting = new int[MOST_WAITING];
         private int top;
 
-        /** Whether the CLAUSE has no "if", or it is so. */
-        boolean isAllowed(Text text, int clause, int[] worths) {
-            int place = text.testPlace(clause);
-            return place == NONE || worthOf(text.code, place, worths) == 1;
-        }
-
-        /** What a SUM of the CLAUSE comes to, or BROKEN; 0, if it has no such SUM. */
-        int sumOf(Text text, int clause, int which, int[] worths) {
-            int place = text.sumPlace(clause, which);
-            return place == NONE ? 0 : worthOf(text.code, place, worths);
-        }
-
-        private int worthOf(int[] code, int first, int[] worths) {
+        /** What the SUM, the TEST that begins at a place comes to, or BROKEN; `without`, if the place is NONE. */
+        int worthAt(int[] code, int first, int[] worths, int without) {
+            if (first == NONE) {
+                return without;
+            }
             top = 0;
             int goOnAt = first;
             for (int i = first; i < code.length; i++) {
@@ -1359,34 +1353,41 @@ public final class LedgerHounds {
             if (top < 2) {
                 return false;
             }
-            long worth = joined(step, waiting[top - 2], waiting[top - 1]);
+            long a = waiting[top - 2];
+            long b = waiting[top - 1];
+            long worth;
+            switch (step) {
+                case PLUS:
+                    worth = a + b;
+                    break;
+                case MINUS:
+                    worth = a - b;
+                    break;
+                case TIMES:
+                    worth = a * b;
+                    break;
+                case OVER:
+                    worth = b == 0 ? BEYOND : a / b;
+                    break;
+                case REST:
+                    worth = b == 0 ? BEYOND : a % b;
+                    break;
+                case LESS:
+                    worth = a < b ? 1 : 0;
+                    break;
+                case MORE:
+                    worth = a > b ? 1 : 0;
+                    break;
+                default:
+                    worth = a == b ? 1 : 0;
+                    break;
+            }
             if (worth > MOST_WORTH || worth < -MOST_WORTH) {
                 return false;
             }
             top--;
             waiting[top - 1] = (int) worth;
             return true;
-        }
-
-        private static long joined(int step, long a, long b) {
-            switch (step) {
-                case PLUS:
-                    return a + b;
-                case MINUS:
-                    return a - b;
-                case TIMES:
-                    return a * b;
-                case OVER:
-                    return b == 0 ? BEYOND : a / b;
-                case REST:
-                    return b == 0 ? BEYOND : a % b;
-                case LESS:
-                    return a < b ? 1 : 0;
-                case MORE:
-                    return a > b ? 1 : 0;
-                default:
-                    return a == b ? 1 : 0;
-            }
         }
     }
 
@@ -1403,8 +1404,8 @@ public final class LedgerHounds {
             }
             fillWorths(book, cell, clerk);
             for (int i = law.count - 1; i >= 0; i--) {
-                if (law.kindOf(i) == kind && machine.isAllowed(law, i, worths)) {
-                    int worth = machine.sumOf(law, i, 0, worths);
+                if (law.kindOf(i) == kind && machine.worthAt(law.code, law.testPlace(i), worths, 1) == 1) {
+                    int worth = machine.worthAt(law.code, law.sumPlace(i, 0), worths, 0);
                     if (worth != BROKEN) {
                         return worth;
                     }
@@ -1524,7 +1525,7 @@ public final class LedgerHounds {
             int bits = 0;
             for (int cell = 0; cell < CELLS; cell++) {
                 int from = sourceBits(cell);
-                if ((from & ~reach[cell]) == 0 && Integer.numberOfTrailingZeros(from) == cell) {
+                if ((from & ~reach[cell]) == 0 && (from & -from) == 1 << cell) {
                     bits |= 1 << cell;
                 }
             }
@@ -1590,14 +1591,21 @@ public final class LedgerHounds {
          * parted into heaps that come to 0, NONE if they can't be.
          */
         int mostEven(int size, int first, int second) {
+            for (int i = 0; i < size; i++) {
+                for (int set = 0; set < 1 << i; set++) {
+                    sums[set | 1 << i] = sums[set] + numbers[i];
+                }
+            }
             int all = (1 << size) - 1;
+            if (sums[all] != 0) {
+                return NONE;
+            }
             for (int set = 1; set <= all; set++) {
-                sums[set] = sums[set & set - 1] + numbers[Integer.numberOfTrailingZeros(set)];
                 if (sums[set] == 0) {
                     most[set] = mostIn(set, first, second);
                 }
             }
-            return sums[all] == 0 ? most[all] : NONE;
+            return most[all];
         }
 
         /** Tries each heap for the lowest in the set; what a heap leaves comes to 0 as well. */
