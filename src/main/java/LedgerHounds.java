@@ -157,7 +157,7 @@ public final class LedgerHounds {
             case 0:
                 return book.keens[clerk];
             case 1:
-                return book.hands[clerk];
+                return book.handOf(clerk);
             default:
                 return NONE;
         }
@@ -495,7 +495,7 @@ public final class LedgerHounds {
         if (what == 0 && isCell(k)) {
             return paper.entries[k];
         }
-        return what == 1 && paper.hasClerk(k) ? paper.hands[k] : NONE;
+        return what == 1 ? paper.handOf(k) : NONE;
     }
 
     public int image(int k) {
@@ -607,6 +607,8 @@ public final class LedgerHounds {
 
     /** A deed on the ledger, kept for undo(): its answer, or what it is REFUSED by. */
     private int carryOut(int kind, int a, int b, int n) {
+        // A full HAND gets less than was taken, so undo() can't tell from that what it was.
+        int hand = kind == TAKE ? book.handOf(b) : NONE;
         int answer;
         switch (kind) {
             case TAKE:
@@ -623,7 +625,7 @@ public final class LedgerHounds {
                 break;
         }
         if (answer >= 0) {
-            deeds.keep(kind, a, b, kind == TAKE ? answer : n);
+            deeds.keep(kind, a, b, kind == TAKE ? answer : n, hand);
         }
         return answer;
     }
@@ -641,11 +643,11 @@ public final class LedgerHounds {
         }
         int most = nearest(rules.lastTold(from, law, TAKES, cell, clerk), MOST_TAKEN, TAKEN_WITHOUT);
         int amount = Math.min(most, from.entries[cell]);
-        if (amount < 1 || from.hands[clerk] + amount > MOST_HAND) {
+        if (amount < 1) {
             return CANT;
         }
         from.entries[cell] -= amount;
-        from.hands[clerk] += amount;
+        from.hands[clerk] = Math.min(MOST_HAND, from.hands[clerk] + amount);
         return amount;
     }
 
@@ -687,7 +689,7 @@ public final class LedgerHounds {
             worths[ACROSS_WORTHS + i] = book.gap(1, i);
         }
         for (int i = 0; i < MOST_CLERKS; i++) {
-            worths[HAND_WORTHS + i] = i < book.clerks ? book.hands[i] : NONE;
+            worths[HAND_WORTHS + i] = book.handOf(i);
         }
     }
 
@@ -749,6 +751,11 @@ public final class LedgerHounds {
 
         boolean hasClerk(int clerk) {
             return clerk >= 0 && clerk < clerks;
+        }
+
+        /** HAND of a CLERK; NONE without such a one. */
+        int handOf(int clerk) {
+            return hasClerk(clerk) ? hands[clerk] : NONE;
         }
 
         Text lawInForce() {
@@ -844,7 +851,8 @@ public final class LedgerHounds {
 
     /** The latest deeds, the oldest first: what can be undone. */
     private static final class Deeds {
-        private static final int WIDTH = 4;
+        private static final int WIDTH = 5;
+        /** Of each deed the kind, what it was asked with, and the HAND ahead of a taking. */
         private final int[] rows = new int[WIDTH * MOST_DEEDS];
         private int size;
 
@@ -857,7 +865,7 @@ public final class LedgerHounds {
             size = other.size;
         }
 
-        void keep(int kind, int a, int b, int n) {
+        void keep(int kind, int a, int b, int n, int hand) {
             if (size == MOST_DEEDS) {
                 System.arraycopy(rows, WIDTH, rows, 0, WIDTH * (MOST_DEEDS - 1));
                 size--;
@@ -867,6 +875,7 @@ public final class LedgerHounds {
             rows[first + 1] = a;
             rows[first + 2] = b;
             rows[first + 3] = n;
+            rows[first + 4] = hand;
             size++;
         }
 
@@ -883,7 +892,7 @@ public final class LedgerHounds {
             switch (rows[first]) {
                 case TAKE:
                     book.entries[a] += n;
-                    book.hands[b] -= n;
+                    book.hands[b] = rows[first + 4];
                     break;
                 case SHIFT:
                     book.entries[a] += n;

@@ -6,6 +6,7 @@ public final class DeedsTest {
     public static void main(String[] args) {
         take();
         fullHand();
+        fullHandUndone();
         shift();
         fence();
         pass();
@@ -43,31 +44,67 @@ public final class DeedsTest {
         Due.is("without a law", x.take(1, 1), 9);
     }
 
-    /** A HAND of 9,999 at most: what would be more can't be. */
-    private static void fullHand() {
-        LedgerHounds x = Due.under("takes 99 - day");
+    /** CLERK 0 with HAND 9,900, another one with nothing; CELLS 10 to 24 have 999 each. */
+    private static LedgerHounds nearlyFull() {
+        LedgerHounds x = Due.under("takes 99 - day; bars if cell = 24");
         x.clerk(1);
-        for (int c = 0; c < 11; c++) {
+        x.clerk(1);
+        for (int c = 0; c < 25; c++) {
             x.enter(c, 999);
         }
-        for (int i = 0; i < 5; i++) {
-            String text = "take " + 2 * i + " by 0 times 10; take " + (2 * i + 1) + " by 0 times 10";
-            Due.is("orders", Due.orders(x, text), 20);
-        }
+        String text = "take done/10 by 0 times 20";
+        Due.is("orders", Due.orders(x, text + (";" + text).repeat(4)), 100);
         Due.is("hand", x.of(0, 1), 9900);
-        Due.is("to the full", x.take(10, 0), 99);
-        Due.is("hand", x.of(0, 1), 9999);
-        Due.is("beyond it", x.take(10, 0), -3);
-        Due.is("entry", x.at(10, 0), 900);
-        Due.is("undo", x.undo(), 0);
+        return x;
+    }
+
+    /** A HAND of 9,999 at most: what is taken is not less by that. */
+    private static void fullHand() {
+        LedgerHounds x = nearlyFull();
         x.terms(0, 1);
         Due.is("98", x.take(10, 0), 98);
-        Due.is("98 more can't be", x.take(10, 0), -3);
-        Due.is("orders neither", Due.orders(x, "take 10 by 0"), -3);
-        x.terms(0, 98);
-        Due.is("1 more can", x.take(10, 0), 1);
-        Due.is("and no more", x.take(10, 0), -3);
+        Due.is("hand", x.of(0, 1), 9998);
+        Due.is("98 more, one finds room", x.take(10, 0), 98);
+        Due.is("status", x.status(), 0);
         Due.is("hand", x.of(0, 1), 9999);
+        Due.is("entry", x.at(10, 0), 803);
+        Due.is("98 more, none finds room", x.take(10, 0), 98);
+        Due.is("hand", x.of(0, 1), 9999);
+        Due.is("entry", x.at(10, 0), 705);
+        x.terms(0, 0);
+        Due.is("orders, too", Due.orders(x, "take 11 by 0 times 2; pass if latest = 99 and hand 0 = 9*[1000+111]"), 3);
+        Due.is("entry", x.at(11, 0), 801);
+        Due.is("another hand", x.take(11, 1) * 100 + x.of(1, 1), 9898);
+        Due.is("as much as there is", x.enter(12, 7) + x.take(12, 0), 1006);
+        Due.is("nothing there", x.take(12, 0), -3);
+        Due.is("barred", x.take(24, 0), -3);
+        Due.is("a wrong cell", x.take(25, 0), -1);
+        x.terms(0, 99);
+        Due.is("takes nothing", x.take(10, 0), -3);
+        Due.is("hand", x.of(0, 1), 9999);
+    }
+
+    private static void fullHandUndone() {
+        LedgerHounds x = nearlyFull();
+        Due.is("to the full", x.take(10, 0), 99);
+        Due.is("hand", x.of(0, 1), 9999);
+        Due.is("undo", x.undo(), 0);
+        Due.is("as they were", x.at(10, 0) * 10000 + x.of(0, 1), 9999900);
+        x.terms(0, 9);
+        Due.is("90, 90 and 90", x.take(10, 0) + x.take(10, 0) + x.take(11, 0), 270);
+        Due.is("orders", Due.orders(x, "take 11 by 0; shift 11 to 10 of 5; take 11 by 1"), 3);
+        Due.is("orders that can't be", Due.orders(x, "take 11 by 0 times 3; take 24 by 0"), -3);
+        Due.is("as they were", x.at(11, 0) * 10000 + x.of(0, 1), 7249999);
+        int[][] behind = {{0, 824, 814, 9999}, {1, 819, 819, 9999}, {0, 819, 909, 9999}, {0, 819, 999, 9999}, {0, 909, 999, 9990},
+            {0, 999, 999, 9900}};
+        for (int[] b : behind) {
+            Due.is("undo", x.undo(), b[0]);
+            Due.is("at(10, 0)", x.at(10, 0), b[1]);
+            Due.is("at(11, 0)", x.at(11, 0), b[2]);
+            Due.is("hand", x.of(0, 1), b[3]);
+        }
+        Due.is("hand", x.of(1, 1), 0);
+        Due.is("undo", x.undo(), -3);
     }
 
     /** Promise 20. */

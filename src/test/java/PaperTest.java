@@ -14,6 +14,7 @@ public final class PaperTest {
         weeks();
         weeksByLaw();
         lastDay();
+        fullHand();
         Due.end("PaperTest");
     }
 
@@ -160,5 +161,28 @@ public final class PaperTest {
         Due.is("drawn", x.drawn(0, 0), 999);
         x.terms(0, 0);
         Due.is("sixty", x.weeks(8, 60), 600);
+    }
+
+    /** What is taken on paper is not less by a HAND of 9,999 at most. */
+    private static void fullHand() {
+        LedgerHounds x = Due.under("takes 99");
+        x.clerk(0);
+        for (int c = 0; c < 25; c++) {
+            x.enter(c, 999);
+        }
+        String text = "take done/10 by 0 times 20";
+        Due.is("orders", Due.orders(x, text + (";" + text).repeat(4)), 100);
+        for (int c = 0; c < 25; c++) {
+            x.enter(c, 500);
+        }
+        Due.is("to the full", x.weeks(8, 1) * 10000 + x.drawn(0, 1), 999999);
+        Due.is("beyond it", x.weeks(8, 3), 297);
+        Due.is("the hand on paper", x.drawn(0, 1), 9999);
+        int left = 0;
+        for (int c = 0; c < 25; c++) {
+            left += x.drawn(c, 0);
+        }
+        Due.is("the entries on paper", left, 25 * 500 - 297);
+        Due.is("the hand itself", x.of(0, 1), 9900);
     }
 }

@@ -43,6 +43,9 @@ public final class RandomRunsTest {
         if (wildness < 3) {
             prepare();
         }
+        if (random.nextInt(8) == 0) {
+            fillHands();
+        }
         while (calls < CALLS && Due.allWell()) {
             int d = random.nextInt(100);
             if (d < 8) {
@@ -78,6 +81,31 @@ public final class RandomRunsTest {
         int entries = random.nextInt(30);
         for (int i = 0; i < entries; i++) {
             call("enter", random.nextInt(25), random.nextInt(random.nextBoolean() ? 1000 : 8));
+        }
+    }
+
+    /** CLERK 0 comes near a full HAND, so that the takings of the run, of ORDERS and of WEEKS go beyond it. */
+    private void fillHands() throws Exception {
+        call("clerk", random.nextInt(10));
+        putText("takes 99");
+        call("law");
+        call("force", 0);
+        for (int c = 0; c < 25; c++) {
+            call("enter", c, 999 - random.nextInt(4));
+        }
+        putText("take done/9 by 0 times 20" + ";take done/9 by 0 times 20".repeat(4));
+        call("orders");
+        call("of", 0, 1);
+        for (int i = 0; i < 6; i++) {
+            call("take", random.nextInt(25), random.nextInt(2));
+            call("of", 0, 1);
+        }
+        call("weeks", random.nextInt(1000), 1 + random.nextInt(60));
+        call("drawn", 0, 1);
+        call("drawn", random.nextInt(25), 0);
+        for (int i = random.nextInt(6); i > 0; i--) {
+            call("undo");
+            call("of", 0, 1);
         }
     }
 

@@ -368,15 +368,24 @@ public final class Model {
             return -2;
         }
         int n = Math.min(takes(t, clerk, cell), t.entry[cell]);
-        return barred(t, clerk, cell) || n == 0 || t.clerks.get(clerk)[1] + n > 9999 ? -3 : n;
+        return barred(t, clerk, cell) || n == 0 ? -3 : n;
+    }
+
+    /** What is beyond a full HAND is lost, one by one. */
+    private static void taken(State t, int cell, int clerk, int n) {
+        for (int i = 0; i < n; i++) {
+            t.entry[cell]--;
+            if (t.clerks.get(clerk)[1] < 9999) {
+                t.clerks.get(clerk)[1]++;
+            }
+        }
     }
 
     private int doTake(int cell, int clerk) {
         int n = taking(s, cell, clerk);
         if (n > 0) {
             keepDeed(0);
-            s.entry[cell] -= n;
-            s.clerks.get(clerk)[1] += n;
+            taken(s, cell, clerk, n);
         }
         return n;
     }
@@ -847,8 +856,7 @@ public final class Model {
             int cell = (int) (x % 25);
             int got = taking(weeks, cell, clerk);
             if (got > 0) {
-                weeks.entry[cell] -= got;
-                weeks.clerks.get(clerk)[1] += got;
+                taken(weeks, cell, clerk, got);
                 sum += got;
             }
             weeks.terms[0]++;
