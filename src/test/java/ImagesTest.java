@@ -65,26 +65,42 @@ public final class ImagesTest {
         return sum * 31 * 31 + x.fits() * 31 + x.settled();
     }
 
-    /** Promises 40 and 41. */
-    private static void keeps() {
+    /** What an object shows that was filled with each of these. */
+    private static long printOf(int... fills) {
         LedgerHounds x = new LedgerHounds();
-        long empty = print(x);
+        for (int n : fills) {
+            fill(x, n);
+        }
+        return print(x);
+    }
+
+    /** IMAGE 1 of nothing, IMAGE 0 behind the first filling, then a second filling. */
+    private static LedgerHounds filledTwice() {
+        LedgerHounds x = new LedgerHounds();
         x.image(1);
         fill(x, 7);
-        long first = print(x);
         x.image(0);
         fill(x, 13);
-        long second = print(x);
+        return x;
+    }
+
+    /** Promises 40 and 41; an object of its own for each, since an object is used for 512 calls. */
+    private static void keeps() {
+        long empty = printOf();
+        long first = printOf(7);
+        long second = printOf(7, 13);
         Due.holds("unlike", empty != first && first != second);
+        LedgerHounds x = filledTwice();
         Due.is("back(0)", x.back(0), 0);
         Due.is("as it was", print(x), first);
         fill(x, 13);
         Due.is("the same again", print(x), second);
+        x = filledTwice();
         Due.is("back(1)", x.back(1), 0);
         Due.is("empty", print(x), empty);
         Due.is("back(0), the images stay", x.back(0), 0);
         Due.is("as it was", print(x), first);
-        fill(x, 13);
+        x = filledTwice();
         x.image(0);
         x.back(1);
         x.back(0);

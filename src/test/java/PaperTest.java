@@ -65,10 +65,11 @@ public final class PaperTest {
             part = part * 9 / 10;
         }
         for (int slip = 0; slip <= 10; slip++) {
-            x.terms(1, slip);
             long[] parts = new long[101];
             parts[0] = ALL;
             for (int n = 0; n < 100; n++) {
+                x = new LedgerHounds();
+                x.terms(1, slip);
                 long sum = 0;
                 for (int k = 1; k <= 20; k++) {
                     sum += parts[k - 1];

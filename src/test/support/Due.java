@@ -1,3 +1,5 @@
+import java.util.function.IntToLongFunction;
+
 /** Counts and prints the answers that are not as due; puts texts on a tape. */
 final class Due {
     private static int wrong = 0;
@@ -18,6 +20,25 @@ final class Due {
 
     static void holds(String what, boolean so) {
         is(what, so ? 1 : 0, 1);
+    }
+
+    /** The last numbers that can be and the first that can't, on either side; the call is made on an object of its own each time. */
+    static void range(String call, int least, int most, long refusal, IntToLongFunction answer) {
+        for (int n : new int[] {Integer.MIN_VALUE, least - 1, most + 1, Integer.MAX_VALUE}) {
+            is(call + " with " + n, answer.applyAsLong(n), refusal);
+        }
+        for (int n : new int[] {least, most}) {
+            holds(call + " with " + n + " can be", answer.applyAsLong(n) != refusal);
+        }
+    }
+
+    /** A row of bytes as a text. */
+    static String bytes(int... row) {
+        StringBuilder text = new StringBuilder();
+        for (int b : row) {
+            text.append((char) b);
+        }
+        return text.toString();
     }
 
     static boolean allWell() {
