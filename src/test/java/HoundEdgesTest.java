@@ -9,12 +9,15 @@ public final class HoundEdgesTest {
         fewestHeaps();
         fewestCant();
         fewestFar();
+        fewestAnew();
         turnedRows();
         turnedRising();
         steps();
         edges();
         fencedIn();
         bitesFirst();
+        asAskedOfACell();
+        ledNearest();
         longestWay();
         longestRing();
         ringsOfTwo();
@@ -23,6 +26,7 @@ public final class HoundEdgesTest {
         fittingAll();
         nextLowest();
         nextNone();
+        nextOfOne();
         Due.end("HoundEdgesTest");
     }
 
@@ -349,5 +353,61 @@ public final class HoundEdgesTest {
         x.seen(0, 1, 5);
         Due.is("one FITS", x.next(1, 0) * 10 + x.next(1, 1), 1);
         Due.is("NONE is not REFUSED", x.status(), 0);
+    }
+
+    /** ""leads", "bites" are asked of a CELL (clerk, keen -1)", also of a HOUND, with CLERKS there. */
+    private static void asAskedOfACell() {
+        for (String word : new String[] {"clerk", "keen"}) {
+            LedgerHounds x = Due.under("leads 3; leads 1 if " + word + " = 0-1; bites if cell = 7 and " + word + " = 0-1");
+            x.clerk(5);
+            Due.is(word + " leads", x.hound(2, 1), 7);
+            Due.is(word + " bites", x.hound(2, 9), 7);
+            Due.is(word + " in a ring", x.ring(2, 0), 1);
+            Due.is(word + " from where", x.sources(7), 1 << 7 | 1 << 2);
+        }
+    }
+
+    /** "0 .. 4 (else the nearest)", also of a HOUND. */
+    private static void ledNearest() {
+        Due.is("5: a COLUMN back", Due.under("leads 5").hound(13, 1), 12);
+        Due.is("1,000: a COLUMN back", Due.under("leads 1000").hound(13, 1), 12);
+        Due.is("4: a COLUMN back", Due.under("leads 4").hound(13, 1), 12);
+        Due.is("0: nowhere", Due.under("leads 0").hound(13, 1), 13);
+        Due.is("-1: nowhere", Due.under("leads 0-1").hound(13, 1), 13);
+        Due.is("-1,000: nowhere", Due.under("leads 0-1000").hound(13, 1), 13);
+    }
+
+    /** FEWEST is of what stands, whatever it was the call ahead; SETTLED is not of it, nor it of SETTLED. */
+    private static void fewestAnew() {
+        LedgerHounds x = offBy(1, 2, 0, 0, 0, 1, 2, 0, 0, 0);
+        Due.is("two heaps", x.fewest(), 2);
+        x.told(0, 1, 903);
+        x.told(1, 0, 902);
+        Due.is("one heap", x.fewest(), 3);
+        Due.is("nothing BOOKED", x.settled(), 0);
+        x.booked(0, 1, 5);
+        Due.is("one payment", x.settled(), 1);
+        x.booked(2, 3, 7);
+        Due.is("two payments", x.settled(), 2);
+        Due.is("still one heap", x.fewest(), 3);
+        x.booked(1, 2, 1);
+        Due.is("three payments", x.settled(), 3);
+        x.told(0, 1, 902);
+        x.told(1, 0, 901);
+        Due.is("two heaps again", x.fewest(), 2);
+    }
+
+    /** "how many are left at most": the one that FITS, whichever it is. */
+    private static void nextOfOne() {
+        for (int only = 0; only < 6; only++) {
+            LedgerHounds x = new LedgerHounds();
+            for (int law = 0; law < 6; law++) {
+                Due.law(x, law == only ? "leads 1" : "leads 0");
+            }
+            x.seen(0, 1, 5);
+            Due.is("one FITS", x.fits(), 1 << only);
+            Due.is("the lowest CELL", x.next(1, 0), 0);
+            Due.is("one is left", x.next(1, 1), 1);
+        }
     }
 }

@@ -13,6 +13,7 @@ public final class ImageEdgesTest {
         eachPart();
         imagesStay();
         twoImages();
+        othersOfTheSameNumber();
         keptAnew();
         notOfTheImage();
         nothingUndone();
@@ -368,5 +369,38 @@ public final class ImageEdgesTest {
         Due.is("feed(), end(), forget() are none of these", x.status(), -3);
         Due.orders(x, "pass");
         Due.is("orders()", x.status(), 0);
+    }
+
+    /** "all that it keeps is as it was then": CLERKS, LAWS, SEEN, BOOKED that others of the same number came for since. */
+    private static void othersOfTheSameNumber() {
+        LedgerHounds x = new LedgerHounds();
+        x.image(1);
+        fill(x);
+        Map<String, Long> due = looksOf(x);
+        LedgerHounds y = new LedgerHounds();
+        y.image(1);
+        fill(y);
+        y.image(0);
+        y.back(1);
+        for (int i = 0; i < 6; i++) {
+            y.clerk(i);
+            Due.law(y, "leads 0; takes 98; bites; bars if cell > 3");
+        }
+        for (int i = 0; i < 10; i++) {
+            y.seen(i, 99, 25);
+            y.booked(4, 2, 1 + i);
+        }
+        Due.is("a CLERK of the other ones", y.of(4, 0), 4);
+        Due.is("a LAW of the other ones", y.force(5), -1);
+        Due.is("a LAW of the other ones", y.at(24, 3), 1);
+        Due.is("back", y.back(0), 0);
+        for (int i = 0; i < 5; i++) {
+            Due.is("KEEN of CLERK " + i, y.of(i, 0), 9 - i);
+        }
+        for (int i = 0; i < 6; i++) {
+            y.force(i);
+            Due.is("LAW " + i, y.at(24, 2) * 100 + y.asks(4, 24, 0), (i + 1) % 5 * 100 + 9);
+        }
+        Looks.alike("behind others", looksOf(y), due, "count 5");
     }
 }

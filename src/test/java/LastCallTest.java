@@ -13,6 +13,7 @@ public final class LastCallTest {
         refusedAllAlong();
         dearestAllAlong();
         daysAllAlong();
+        textsAllAlong();
         imagesAllAlong();
         Due.end("LastCallTest");
     }
@@ -161,5 +162,22 @@ public final class LastCallTest {
         }
         Due.is("511th", x.image(0), 0);
         Due.is("512th", x.at(0, 0), 125);
+    }
+
+    /** A TEXT every other call; each is read as the first was. */
+    private static void textsAllAlong() {
+        LedgerHounds x = new LedgerHounds();
+        for (int i = 1; i <= CALLS / 2; i++) {
+            // "fence 2*3+1 times 20"
+            x.feed(0x66656e63, 0x6520322a, 0x332b3120, 0x74696d65, 0x73203230);
+            Due.is("TEXT " + i, x.orders(), 20);
+        }
+        LedgerHounds y = new LedgerHounds();
+        for (int i = 1; i <= 170; i++) {
+            // "fence 2*3+1 times 2x", which is no TEXT
+            y.feed(0x66656e63, 0x6520322a, 0x332b3120, 0x74696d65, 0x73203278);
+            Due.is("TEXT " + i, y.orders(), -6);
+            Due.is("FAULT " + i, y.fault(), 19);
+        }
     }
 }

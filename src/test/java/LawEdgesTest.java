@@ -9,6 +9,9 @@ public final class LawEdgesTest {
         beyond();
         divided();
         onlyIfItMatters();
+        signsAndJoins();
+        longRowsOfTests();
+        allWaiting();
         brokenSpreads();
         ledNearest();
         takesNearest();
@@ -311,5 +314,67 @@ public final class LawEdgesTest {
         Due.is("no CLAUSE", x.at(0, 2) * 10 + x.at(0, 3), 20);
         Due.is("NONE again", x.force(-1), -1);
         Due.is("that is not REFUSED", x.status(), 0);
+    }
+
+    private static void joined(String left, boolean a, String right, boolean b) {
+        Due.is(left + " and " + right, so(left + " and " + right), a && b ? 1 : 0);
+        Due.is(left + " or " + right, so(left + " or " + right), a || b ? 1 : 0);
+        Due.is("not (" + left + " and " + right + ")", so("not (" + left + " and " + right + ")"), a && b ? 0 : 1);
+        Due.is("not (" + left + " or " + right + ")", so("not (" + left + " or " + right + ")"), a || b ? 0 : 1);
+    }
+
+    /** "PLAIN: "not" PLAIN | ..."; each sign with the first number below, at and above the second. */
+    private static void signsAndJoins() {
+        String[] signs = {"<", ">", "="};
+        for (int sign = 0; sign < 3; sign++) {
+            for (int n = 1; n <= 3; n++) {
+                boolean is = sign == 0 ? n < 2 : sign == 1 ? n > 2 : n == 2;
+                String test = n + signs[sign] + 2;
+                Due.is(test, so(test), is ? 1 : 0);
+                Due.is("not " + test, so("not " + test), is ? 0 : 1);
+                Due.is("not not " + test, so("not not " + test), is ? 1 : 0);
+                Due.is("not not not " + test, so("not not not " + test), is ? 0 : 1);
+                for (int m = 0; m < 2; m++) {
+                    joined(test, is, "1=" + m, m == 1);
+                    joined("1=" + m, m == 1, test, is);
+                    joined("not " + test, !is, "1=" + m, m == 1);
+                    joined("1=" + m, m == 1, "not " + test, !is);
+                    joined("not " + test, !is, "not 1=" + m, m == 0);
+                }
+            }
+        }
+        Due.is("not of the first alone", so("not 1=1 or 1=1"), 1);
+        Due.is("not of the first alone", so("not 1=2 and 1=2"), 0);
+        Due.is("\"and\" is nearer", so("1=1 or 1=1 and 1=2"), 1);
+        Due.is("\"and\" is nearer", so("1=2 and 1=2 or 1=1"), 1);
+        Due.is("brackets are nearer still", so("(1=1 or 1=1) and 1=2"), 0);
+    }
+
+    /** 50 PARTS make 25 comparisons in a row. */
+    private static void longRowsOfTests() {
+        String noes = "0=1 or ".repeat(24);
+        String yeses = "1=1 and ".repeat(24);
+        Due.is("25 that are not so", so(noes + "0=1"), 0);
+        Due.is("the 25th is so", so(noes + "1=1"), 1);
+        Due.is("the first is so", so("1=1 or " + "0=1 or ".repeat(23) + "0=1"), 1);
+        Due.is("25 that are so", so(yeses + "1=1"), 1);
+        Due.is("the 25th is not so", so(yeses + "0=1"), 0);
+        Due.is("the first is not so", so("0=1 and " + "1=1 and ".repeat(23) + "1=1"), 0);
+        Due.is("one after the other", so("0=1 and 1=1 or ".repeat(12) + "1=1"), 1);
+        Due.is("one after the other", so("1=1 and 0=1 or ".repeat(12) + "1=2"), 0);
+    }
+
+    /** As many numbers as can wait at once: a comparison's, and in each of 8 brackets a SUM's and a TERM's. */
+    private static void allWaiting() {
+        String open = "1+2*[".repeat(8);
+        String shut = "]".repeat(8);
+        Due.is("8 of them", so("1000+23 = " + open + "1+2*1" + shut), 1);
+        Due.is("8 of them", so("1000+23 < " + open + "1+2*1" + shut), 0);
+        Due.is("8 of them", so("1000+23 > " + open + "1+2*1" + shut), 0);
+        Due.is("4 of each", so("(((( 60+3 = " + "1+2*[".repeat(4) + "1+2*1" + "]".repeat(4) + "))))"), 1);
+        LedgerHounds x = Due.under("takes " + open + "1+2*1" + shut + "-1000; leads " + open + "1+2*1" + shut + "-1000-20");
+        x.clerk(0);
+        Due.is("in a SUM", x.asks(0, 0, 0), 23);
+        Due.is("in a SUM", x.at(0, 2), 3);
     }
 }

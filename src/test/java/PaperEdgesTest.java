@@ -19,6 +19,7 @@ public final class PaperEdgesTest {
         weeksLastDays();
         weeksIfItCan();
         weeksClerks();
+        weeksByKeen();
         weeksOnPaper();
         latestWeeks();
         Due.end("PaperEdgesTest");
@@ -317,5 +318,34 @@ public final class PaperEdgesTest {
         Due.is("on the last DAY", x.weeks(0, 60), 0);
         Due.is("the latest now", x.drawn(16, 0) * 100 + x.drawn(1, 1), 10);
         Due.is("the third CLERK is there", x.drawn(2, 1), 0);
+    }
+
+    /** On paper each CLERK has its KEEN, each LAW stands. */
+    private static void weeksByKeen() {
+        LedgerHounds x = new LedgerHounds();
+        for (int c = 0; c < 25; c++) {
+            x.enter(c, 999);
+        }
+        for (int i = 0; i < 5; i++) {
+            x.clerk(9 - 2 * i);
+        }
+        for (int i = 0; i < 6; i++) {
+            Due.law(x, "takes " + (i + 1) + " * [keen + 1]");
+        }
+        for (int law = 0; law < 6; law++) {
+            x.force(law);
+            int s = 17;
+            int[] hands = new int[5];
+            for (int day = 0; day < 40; day++) {
+                s = (int) ((s * 1103L + 12345) % 1000003);
+                hands[s % 5] += (law + 1) * (10 - 2 * (s % 5));
+                s = (int) ((s * 1103L + 12345) % 1000003);
+            }
+            Due.is("WEEKS", x.weeks(17, 40), hands[0] + hands[1] + hands[2] + hands[3] + hands[4]);
+            for (int i = 0; i < 5; i++) {
+                Due.holds("CLERK " + i + " was drawn", hands[i] > 0);
+                Due.is("HAND of CLERK " + i, x.drawn(i, 1), hands[i]);
+            }
+        }
     }
 }
