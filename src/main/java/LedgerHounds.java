@@ -12,6 +12,7 @@ public final class LedgerHounds {
     private static final int MOST_LAWS = 6;
     private static final int MOST_SIGHTS = 8;
     private static final int MOST_PAYMENTS = 10;
+    private static final int MOST_PAYMENT = 999;
     private static final int MOST_BYTES = 400;
     private static final int MOST_CLAUSES = 12;
     private static final int MOST_PARTS = 50;
@@ -55,7 +56,7 @@ public final class LedgerHounds {
     private static final int TAKEN_WITHOUT = 10;
 
     /** What a SUM, a TEST is that has no worth: far outside of all that a SUM can come to. */
-    private static final int BROKEN = Integer.MIN_VALUE;
+    private static final int BROKEN = -2000000000;
 
     /** The worths of the words of ORDERS stand in one row: day, done, latest, then these. */
     private static final int ENTRY_WORTHS = 3;
@@ -409,7 +410,7 @@ public final class LedgerHounds {
     }
 
     public int booked(int from, int to, int n) {
-        if (!isAccount(from) || !isAccount(to) || from == to || !isWithin(n, 1, 999)) {
+        if (!isAccount(from) || !isAccount(to) || from == to || !isWithin(n, 1, MOST_PAYMENT)) {
             return refused(WRONG);
         }
         if (book.paymentCount >= MOST_PAYMENTS) {
@@ -425,7 +426,7 @@ public final class LedgerHounds {
             return NONE;
         }
         // The most that can go through is the least that is booked out of any such set.
-        int least = Integer.MAX_VALUE;
+        int least = MOST_PAYMENTS * MOST_PAYMENT + 1;
         int cut = 0;
         for (int set = 0; set < 1 << LINES; set++) {
             if ((set >> from & 1) == 1 && (set >> to & 1) == 0 && book.bookedOutOf(set) < least) {

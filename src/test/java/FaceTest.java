@@ -5,11 +5,16 @@ import java.lang.reflect.Modifier;
 import java.nio.file.Files;
 import java.nio.file.Path;
 import java.util.Set;
+import java.util.StringJoiner;
 import java.util.TreeSet;
+import java.util.regex.Matcher;
 import java.util.regex.Pattern;
 
 /** The public face, and what can be seen of LANGUAGE.md's rules in the source; promise 1. */
 public final class FaceTest {
+    /** All of the library that the class uses; rule 4 names each of them. */
+    private static final Set<String> LIBRARY = Set.of("Arrays.copyOf", "Arrays.fill", "Integer.bitCount", "Math.max", "Math.min",
+            "System.arraycopy");
     private static final String FACE = "enter 2 at 2 told 3 off 2 clerk 1 of 2 asks 3 terms 2 feed 5 end 1 row 0 "
             + "smudges 0 law 0 orders 0 fault 0 stopped 0 force 1 take 2 shift 3 fence 1 pass 0 undo 0 fewest 0 "
             + "turned 1 hound 2 ring 2 sources 1 casts 1 seen 3 fits 0 next 2 booked 3 through 3 settled 0 forget 0 "
@@ -21,6 +26,7 @@ public final class FaceTest {
     public static void main(String[] args) throws Exception {
         constants();
         members();
+        faceOfTheDocument();
         emptyLedger();
         source();
         Due.end("FaceTest");
@@ -71,6 +77,45 @@ public final class FaceTest {
         }
     }
 
+    /** The lines of the document's face are what is public in the class, no more and no less. */
+    private static void faceOfTheDocument() throws Exception {
+        String doc = Files.readString(Path.of("../shared/DOC.md"));
+        String face = doc.substring(doc.indexOf("public final class LedgerHounds {"));
+        face = face.substring(0, face.indexOf("```"));
+        Set<String> want = new TreeSet<>();
+        for (String line : face.split("\n")) {
+            if (line.startsWith("    public ")) {
+                // A parameter's type matters here, its name does not.
+                want.add(line.trim().replaceAll("\\bint \\w+(?=[,)])", "int").replaceAll(" = .*", "").replace(";", ""));
+            }
+        }
+        Class<?> c = LedgerHounds.class;
+        Set<String> got = new TreeSet<>();
+        for (Field f : c.getFields()) {
+            got.add(Modifier.toString(f.getModifiers()) + " " + f.getType() + " " + f.getName());
+        }
+        for (Constructor<?> k : c.getConstructors()) {
+            got.add(Modifier.toString(k.getModifiers()) + " LedgerHounds" + typesOf(k.getParameterTypes()));
+        }
+        for (Method m : c.getDeclaredMethods()) {
+            if (Modifier.isPublic(m.getModifiers())) {
+                got.add(Modifier.toString(m.getModifiers()) + " " + m.getReturnType() + " " + m.getName() + typesOf(m.getParameterTypes()));
+            }
+        }
+        Due.is("lines of the document's face", want.size(), 46);
+        Due.holds("the face is " + got + ", due is " + want, got.equals(want));
+        Due.holds("the class stands on Object alone", c.getSuperclass() == Object.class && c.getInterfaces().length == 0);
+        Due.is("public classes inside", c.getClasses().length, 0);
+    }
+
+    private static String typesOf(Class<?>[] types) {
+        StringJoiner row = new StringJoiner(", ", "(", ")");
+        for (Class<?> type : types) {
+            row.add(type.getName());
+        }
+        return row.toString();
+    }
+
     /** Promise 1. */
     private static void emptyLedger() {
         LedgerHounds x = new LedgerHounds();
@@ -119,6 +164,12 @@ public final class FaceTest {
                 Due.holds("static state: " + line, false);
             }
         }
+        Matcher used = Pattern.compile("\\b(?:Integer|Long|Math|Arrays|System|Character|Boolean|String|List)\\.\\w+").matcher(code);
+        while (used.find()) {
+            Due.holds(used.group() + " is of the library of rule 4", LIBRARY.contains(used.group()));
+        }
+        // The class, three constants, the constructor, 42 methods; nothing inside the classes inside.
+        Due.is("how often the source says public", code.split("\\bpublic\\b", -1).length - 1, 47);
         longMethods(text);
     }
 

@@ -34,6 +34,7 @@ public final class PaymentsTest {
         Due.is("a wrong eleventh", x.booked(1, 1, 1), -1);
         Due.is("count(3)", x.count(3), 10);
         Due.is("all of it", x.through(4, 3, 0), 9990);
+        Due.is("the most that can be is cut, too", x.through(4, 3, 1), 16);
         Due.is("all of it", x.through(3, 4, 0), 0);
     }
 
